@@ -235,6 +235,15 @@ public final class PromisesTest {
         check.due("undo", x.undo(2), 2);
         check.due("all back", x.about(3), 4);
         dueTable("by points", x, 2, 1, 0);
+        for (int teller = 0; teller < 4; teller++) {
+            x.ties();
+            for (int i = 0; i < 4; i++) {
+                x.tie(i == teller ? 2 : 0);
+            }
+            x.ties();
+            check.due("undo", x.undo(1), 1);
+            dueTable("each is back at its place: " + teller, x, 2, 1, 0);
+        }
     }
 
     private void promise11Meeting() {
