@@ -19,6 +19,10 @@ final class Check {
         due(what, so, true);
     }
 
+    int asked() {
+        return asked;
+    }
+
     boolean foundWrong() {
         return wrong != 0;
     }

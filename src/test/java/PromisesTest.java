@@ -1,38 +1,10 @@
 /** Promise by promise, by hand: ordinary calls, the edges that the document names, and wrong parts. */
 public final class PromisesTest {
     private static final int NONE = -1;
-    private static final int LOW = Integer.MIN_VALUE;
-    private static final int HIGH = Integer.MAX_VALUE;
+    private static final int LOW = Benches.LOW;
+    private static final int HIGH = Benches.HIGH;
 
     private final Check check = new Check();
-
-    private static MeetingRanks withPlayers(int n) {
-        MeetingRanks x = new MeetingRanks();
-        for (int i = 1; i < n; i++) {
-            x.player();
-        }
-        return x;
-    }
-
-    /** Each of these won by the first over the second, 1 to 0. */
-    private static MeetingRanks withWins(int n, int... pairs) {
-        MeetingRanks x = withPlayers(n);
-        for (int i = 0; i < pairs.length; i += 2) {
-            x.meet(pairs[i], pairs[i + 1], 1, 0);
-        }
-        return x;
-    }
-
-    /** Each one won against all behind it. */
-    private static MeetingRanks inLine(int n) {
-        MeetingRanks x = withPlayers(n);
-        for (int a = 0; a < n; a++) {
-            for (int b = a + 1; b < n; b++) {
-                x.meet(a, b, 1, 0);
-            }
-        }
-        return x;
-    }
 
     private void dueAbout(String when, MeetingRanks x, int... want) {
         for (int what = 0; what < want.length; what++) {
@@ -79,7 +51,7 @@ public final class PromisesTest {
     }
 
     private void promise03Meet() {
-        MeetingRanks x = withPlayers(3);
+        MeetingRanks x = Benches.withPlayers(3);
         int[][] wrong = {{0, 0, 1, 1}, {0, 3, 1, 1}, {3, 0, 1, 1}, {-1, 0, 1, 1}, {0, -1, 1, 1}, {0, 1, -1, 0},
             {0, 1, 0, -1}, {0, 1, 100, 0}, {0, 1, 0, 100}, {LOW, HIGH, 0, 0}, {0, 1, HIGH, LOW}};
         for (int[] m : wrong) {
@@ -98,7 +70,7 @@ public final class PromisesTest {
     }
 
     private void promise04Feed() {
-        MeetingRanks x = withPlayers(2);
+        MeetingRanks x = Benches.withPlayers(2);
         for (int i = 1; i <= 24; i++) {
             check.due("feed", x.feed(0x00010203, LOW, HIGH, -1, 0), 20 * i);
         }
@@ -113,7 +85,7 @@ public final class PromisesTest {
     }
 
     private void promise05Sheet() {
-        MeetingRanks x = withPlayers(2);
+        MeetingRanks x = Benches.withPlayers(2);
         check.due("nothing on the tape", x.sheet(0), 0);
         check.due("more than the tape has", x.sheet(1), NONE);
         x.feed(0x00010100, 0x01000063, 0x00016300, 0x00010000, 0x00010201);
@@ -150,7 +122,7 @@ public final class PromisesTest {
     }
 
     private void promise06Drop() {
-        MeetingRanks x = withWins(3, 0, 1, 1, 2, 2, 0);
+        MeetingRanks x = Benches.withWins(3, 0, 1, 1, 2, 2, 0);
         for (int k : new int[] {-1, 3, LOW, HIGH}) {
             check.due("drop of none", x.drop(k), false);
         }
@@ -168,7 +140,7 @@ public final class PromisesTest {
     }
 
     private void promise07Next() {
-        MeetingRanks x = withPlayers(3);
+        MeetingRanks x = Benches.withPlayers(3);
         int[][] wrong = {{0, 0}, {0, 3}, {3, 0}, {-1, 0}, {0, -1}, {LOW, 1}, {1, HIGH}};
         for (int[] g : wrong) {
             check.due("next that can't be", x.next(g[0], g[1]), NONE);
@@ -184,7 +156,7 @@ public final class PromisesTest {
     }
 
     private void promise08Rule() {
-        MeetingRanks x = withWins(3, 0, 1);
+        MeetingRanks x = Benches.withWins(3, 0, 1);
         x.meet(0, 2, 4, 4);
         for (int wrong : new int[] {-11, 11, LOW, HIGH}) {
             check.due("rule: won", x.rule(wrong, 0, 0), false);
@@ -205,7 +177,7 @@ public final class PromisesTest {
     }
 
     private void promise09Tie() {
-        MeetingRanks x = withPlayers(2);
+        MeetingRanks x = Benches.withPlayers(2);
         for (int kind : new int[] {-1, 6, LOW, HIGH}) {
             check.due("no such kind", x.tie(kind), NONE);
         }
@@ -218,7 +190,7 @@ public final class PromisesTest {
     }
 
     private void promise10Ties() {
-        MeetingRanks x = withPlayers(3);
+        MeetingRanks x = Benches.withPlayers(3);
         x.meet(0, 1, 1, 1);
         x.meet(1, 2, 3, 3);
         x.meet(2, 0, 2, 2);
@@ -247,7 +219,7 @@ public final class PromisesTest {
     }
 
     private void promise11Meeting() {
-        MeetingRanks x = withPlayers(3);
+        MeetingRanks x = Benches.withPlayers(3);
         x.meet(2, 1, 7, 99);
         x.meet(0, 2, 5, 0);
         int[][] want = {{2, 1, 7, 99}, {0, 2, 5, 0}};
@@ -264,7 +236,7 @@ public final class PromisesTest {
     }
 
     private void promise12Over() {
-        MeetingRanks x = withWins(3, 0, 1, 0, 1, 1, 0);
+        MeetingRanks x = Benches.withWins(3, 0, 1, 0, 1, 1, 0);
         x.meet(1, 0, 2, 3);
         x.meet(1, 0, 2, 2);
         check.due("over", x.over(0, 1), 3);
@@ -277,7 +249,7 @@ public final class PromisesTest {
     }
 
     private void promise13Score() {
-        MeetingRanks x = withWins(3, 0, 1, 0, 2);
+        MeetingRanks x = Benches.withWins(3, 0, 1, 0, 2);
         x.meet(2, 1, 0, 0);
         check.due("score", x.score(0), 4);
         check.due("score", x.score(1), 1);
@@ -288,7 +260,7 @@ public final class PromisesTest {
     }
 
     private void promise14Number() {
-        MeetingRanks x = withPlayers(4);
+        MeetingRanks x = Benches.withPlayers(4);
         x.meet(0, 1, 3, 1);
         x.meet(1, 0, 4, 2);
         x.meet(0, 2, 1, 1);
@@ -313,7 +285,7 @@ public final class PromisesTest {
     }
 
     private void promise15Table() {
-        MeetingRanks x = withWins(4, 3, 0, 3, 1, 3, 2, 1, 0);
+        MeetingRanks x = Benches.withWins(4, 3, 0, 3, 1, 3, 2, 1, 0);
         dueTable("by score, then by numbers", x, 3, 1, 0, 2);
         for (int none : new int[] {-1, 4, LOW, HIGH}) {
             check.due("no such place", x.table(none), NONE);
@@ -322,7 +294,7 @@ public final class PromisesTest {
         x.meet(2, 0, 9, 0);
         dueTable("by score", x, 3, 2, 1, 0);
         // 1 and 2 of as many by the SCORE, the first of the TIES, and the second.
-        MeetingRanks y = withPlayers(5);
+        MeetingRanks y = Benches.withPlayers(5);
         y.meet(1, 0, 1, 0);
         y.meet(2, 0, 1, 0);
         y.meet(2, 1, 0, 0);
@@ -344,7 +316,7 @@ public final class PromisesTest {
 
     /** KIND 5 looks at those alone that are as good by the SCORE and by all TIES ahead of it. */
     private void tieAmongTwice() {
-        MeetingRanks x = withPlayers(4);
+        MeetingRanks x = Benches.withPlayers(4);
         x.meet(1, 0, 1, 0);
         x.meet(2, 1, 3, 2);
         x.meet(0, 2, 7, 6);
@@ -365,7 +337,7 @@ public final class PromisesTest {
         x.tie(2);
         // Points 0: 0+7+0+4+0 = 11, 1: 1+2+1+0+0 = 4, 2: 3+6+5+4+0 = 18.
         dueTable("by points", x, 2, 0, 1, 3);
-        MeetingRanks y = withPlayers(4);
+        MeetingRanks y = Benches.withPlayers(4);
         y.meet(0, 1, 1, 0);
         y.meet(1, 2, 5, 0);
         y.meet(2, 0, 5, 0);
@@ -389,7 +361,7 @@ public final class PromisesTest {
     }
 
     private void promise16Tied() {
-        MeetingRanks x = withPlayers(4);
+        MeetingRanks x = Benches.withPlayers(4);
         x.meet(0, 1, 2, 2);
         check.due("0 and 1", x.tied(0), true);
         check.due("1 and 2", x.tied(1), false);
@@ -408,7 +380,7 @@ public final class PromisesTest {
     }
 
     private void promise17and18Heaps() {
-        MeetingRanks x = withPlayers(5);
+        MeetingRanks x = Benches.withPlayers(5);
         check.due("each alone", x.heaps(), 5);
         for (int i = 0; i < 5; i++) {
             check.due("each alone", x.heap(i), i);
@@ -436,7 +408,7 @@ public final class PromisesTest {
         for (int none : new int[] {-1, 5, LOW, HIGH}) {
             check.due("heap of none", x.heap(none), NONE);
         }
-        MeetingRanks line = inLine(10);
+        MeetingRanks line = Benches.inLine(10);
         check.due("ten heaps", line.heaps(), 10);
         check.due("the last", line.heap(9), 9);
         line.meet(9, 0, 1, 0);
@@ -444,7 +416,7 @@ public final class PromisesTest {
     }
 
     private void promise19Gap() {
-        MeetingRanks x = withPlayers(6);
+        MeetingRanks x = Benches.withPlayers(6);
         check.due("not joined", x.gap(0, 1), 0);
         for (int i = 0; i < 5; i++) {
             x.meet(i, i + 1, 1, 0);
@@ -465,13 +437,13 @@ public final class PromisesTest {
         check.due("but that is too many", x.gap(0, 1), 0);
         x.undo(2);
         dueGap("six again", x, 0, 5, 12);
-        MeetingRanks two = withPlayers(2);
+        MeetingRanks two = Benches.withPlayers(2);
         for (int i = 0; i < 120; i++) {
             two.meet(0, 1, i < 60 ? 99 : 0, 0);
         }
         dueGap("the mean", two, 0, 99, 4);
         dueGap("the mean", two, 1, -99, 4);
-        MeetingRanks even = withPlayers(2);
+        MeetingRanks even = Benches.withPlayers(2);
         even.meet(0, 1, 3, 3);
         dueGap("0 is 0 over 1", even, 0, 0, 1);
         dueGap("one alone", new MeetingRanks(), 0, 0, 1);
@@ -480,7 +452,7 @@ public final class PromisesTest {
     /** The largest numbers on the way: 120 MEETINGS of 6, the greatest leads. */
     private void promise19LargeGaps() {
         Model model = new Model();
-        MeetingRanks x = withPlayers(6);
+        MeetingRanks x = Benches.withPlayers(6);
         for (int i = 1; i < 6; i++) {
             model.player();
         }
@@ -500,7 +472,7 @@ public final class PromisesTest {
     }
 
     private void promise20Cost() {
-        MeetingRanks x = withWins(3, 0, 1, 1, 2, 2, 0);
+        MeetingRanks x = Benches.withWins(3, 0, 1, 1, 2, 2, 0);
         x.meet(0, 2, 2, 2);
         x.meet(0, 2, 1, 2);
         check.due("0 1 2", x.cost(12), 2);
@@ -510,7 +482,7 @@ public final class PromisesTest {
         for (long row : wrong) {
             check.due("cost(" + row + ")", x.cost(row), NONE);
         }
-        MeetingRanks line = inLine(10);
+        MeetingRanks line = Benches.inLine(10);
         check.due("ten in line", line.cost(123456789L), 0);
         check.due("ten turned round", line.cost(9876543210L), 45);
         check.due("one digit twice", line.cost(9876543211L), NONE);
@@ -521,7 +493,7 @@ public final class PromisesTest {
     }
 
     private void promise21to23Rows() {
-        MeetingRanks line = inLine(10);
+        MeetingRanks line = Benches.inLine(10);
         check.due("in line: best", line.best(), 0);
         check.due("in line: rows", line.rows(), 1);
         check.due("in line: first", line.first(), 123456789L);
@@ -532,7 +504,7 @@ public final class PromisesTest {
         check.due("9 over 0, and none back: best", line.best(), 1);
         check.due("9 over 0, and none back: rows", line.rows(), 1);
         check.due("9 over 0, and none back: first", line.first(), 123456789L);
-        MeetingRanks none = withPlayers(10);
+        MeetingRanks none = Benches.withPlayers(10);
         check.due("ten without meetings: best", none.best(), 0);
         check.due("ten without meetings: rows", none.rows(), 3628800);
         check.due("ten without meetings: first", none.first(), 123456789L);
@@ -543,7 +515,7 @@ public final class PromisesTest {
         check.due("undone", none.rows(), 3628800);
         none.undo(1);
         check.due("nine", none.rows(), 362880);
-        MeetingRanks ring = withWins(3, 0, 1, 1, 2, 2, 0, 2, 0);
+        MeetingRanks ring = Benches.withWins(3, 0, 1, 1, 2, 2, 0, 2, 0);
         check.due("a ring: best", ring.best(), 1);
         check.due("a ring: rows", ring.rows(), 2);
         check.due("a ring: first", ring.first(), 120);
@@ -555,25 +527,25 @@ public final class PromisesTest {
     }
 
     private void promise24Bound() {
-        check.due("too few", withWins(2, 0, 1, 1, 0).bound(), 0);
-        check.due("a ring", withWins(3, 0, 1, 1, 2, 2, 0).bound(), 1);
-        check.due("a ring the other way", withWins(3, 1, 0, 2, 1, 0, 2).bound(), 1);
-        check.due("both ways", withWins(3, 1, 0, 2, 1, 0, 2, 0, 1, 1, 2, 2, 0, 0, 1, 1, 2, 2, 0).bound(), 3);
+        check.due("too few", Benches.withWins(2, 0, 1, 1, 0).bound(), 0);
+        check.due("a ring", Benches.withWins(3, 0, 1, 1, 2, 2, 0).bound(), 1);
+        check.due("a ring the other way", Benches.withWins(3, 1, 0, 2, 1, 0, 2).bound(), 1);
+        check.due("both ways", Benches.withWins(3, 1, 0, 2, 1, 0, 2, 0, 1, 1, 2, 2, 0, 0, 1, 1, 2, 2, 0).bound(), 3);
         // The ring 0 1 2 comes first and uses up 2 over 0, so 0 3 2 and 1 2 3 find no more.
-        check.due("greedy", withWins(4, 0, 1, 1, 2, 2, 0, 0, 3, 3, 2).bound(), 1);
-        check.due("greedy, with one more", withWins(4, 0, 1, 1, 2, 2, 0, 0, 3, 3, 2, 2, 0).bound(), 2);
-        MeetingRanks draws = withPlayers(3);
+        check.due("greedy", Benches.withWins(4, 0, 1, 1, 2, 2, 0, 0, 3, 3, 2).bound(), 1);
+        check.due("greedy, with one more", Benches.withWins(4, 0, 1, 1, 2, 2, 0, 0, 3, 3, 2, 2, 0).bound(), 2);
+        MeetingRanks draws = Benches.withPlayers(3);
         draws.meet(0, 1, 1, 1);
         draws.meet(1, 2, 1, 1);
         draws.meet(2, 0, 1, 1);
         check.due("draws make none", draws.bound(), 0);
-        MeetingRanks again = withWins(3, 0, 1, 1, 2, 2, 0);
+        MeetingRanks again = Benches.withWins(3, 0, 1, 1, 2, 2, 0);
         check.due("asked once", again.bound(), 1);
         check.due("asked again", again.bound(), 1);
     }
 
     private void promise25and26Core() {
-        MeetingRanks x = withWins(4, 1, 2, 2, 3, 3, 1, 1, 0, 2, 0);
+        MeetingRanks x = Benches.withWins(4, 1, 2, 2, 3, 3, 1, 1, 0, 2, 0);
         check.due("3 does not beat 0", x.core(), 15);
         x.meet(3, 0, 1, 0);
         check.due("1, 2, 3", x.core(), 14);
@@ -586,22 +558,22 @@ public final class PromisesTest {
         x.meet(0, 2, 1, 0);
         check.due("as often as it lost", x.champion(), NONE);
         check.due("as often as it lost", x.core(), 15);
-        check.due("nobody met", withPlayers(10).core(), 1023);
-        check.due("nobody met", withPlayers(10).champion(), NONE);
-        check.due("ten in line", inLine(10).core(), 1);
-        check.due("ten in line", inLine(10).champion(), 0);
+        check.due("nobody met", Benches.withPlayers(10).core(), 1023);
+        check.due("nobody met", Benches.withPlayers(10).champion(), NONE);
+        check.due("ten in line", Benches.inLine(10).core(), 1);
+        check.due("ten in line", Benches.inLine(10).champion(), 0);
         check.due("one alone", new MeetingRanks().core(), 1);
         check.due("one alone", new MeetingRanks().champion(), 0);
     }
 
     private void promise27Walks() {
         check.due("one alone", new MeetingRanks().walks(), 1);
-        check.due("two that never met", withPlayers(2).walks(), 0);
-        check.due("two", withWins(2, 1, 0).walks(), 1);
-        check.due("as often", withWins(2, 1, 0, 0, 1).walks(), 0);
-        check.due("a ring", withWins(3, 0, 1, 1, 2, 2, 0).walks(), 3);
-        check.due("ten in line", inLine(10).walks(), 1);
-        MeetingRanks turned = inLine(10);
+        check.due("two that never met", Benches.withPlayers(2).walks(), 0);
+        check.due("two", Benches.withWins(2, 1, 0).walks(), 1);
+        check.due("as often", Benches.withWins(2, 1, 0, 0, 1).walks(), 0);
+        check.due("a ring", Benches.withWins(3, 0, 1, 1, 2, 2, 0).walks(), 3);
+        check.due("ten in line", Benches.inLine(10).walks(), 1);
+        MeetingRanks turned = Benches.inLine(10);
         turned.meet(9, 0, 1, 0);
         turned.meet(9, 0, 1, 0);
         // All in line; or 9 over 0, with each cut of 1 .. 8 into those ahead of 9 and those behind 0.
@@ -610,7 +582,7 @@ public final class PromisesTest {
     }
 
     private void promise28and29May() {
-        MeetingRanks x = withWins(4, 1, 0, 2, 0);
+        MeetingRanks x = Benches.withWins(4, 1, 0, 2, 0);
         for (int none : new int[] {-1, 4, LOW, HIGH}) {
             check.due("may of none", x.may(none), NONE);
             check.due("why of none", x.why(none), NONE);
@@ -634,7 +606,7 @@ public final class PromisesTest {
         check.due("whatever the rule", x.why(0), 6);
         x.undo(2);
         check.due("undone", x.may(0), 1);
-        MeetingRanks draw = withPlayers(3);
+        MeetingRanks draw = Benches.withPlayers(3);
         draw.meet(0, 1, 1, 1);
         check.due("a draw gives one", draw.why(2), 1);
         draw.next(2, 0);
@@ -643,7 +615,7 @@ public final class PromisesTest {
         check.due("0 and 1 share", draw.may(2), 1);
         draw.next(0, 1);
         check.due("0 and 1 have too much", draw.why(2), 3);
-        MeetingRanks ten = withPlayers(10);
+        MeetingRanks ten = Benches.withPlayers(10);
         for (int i = 0; i < 40; i++) {
             ten.next(8, 9);
         }
@@ -652,7 +624,7 @@ public final class PromisesTest {
     }
 
     private void promise30Undo() {
-        MeetingRanks x = withPlayers(2);
+        MeetingRanks x = Benches.withPlayers(2);
         for (int n : new int[] {-1, 2, 40, 41, LOW, HIGH}) {
             check.due("undo of too many", x.undo(n), NONE);
         }
@@ -675,7 +647,7 @@ public final class PromisesTest {
     }
 
     private void undoOfEach() {
-        MeetingRanks x = withWins(3, 0, 1);
+        MeetingRanks x = Benches.withWins(3, 0, 1);
         x.tie(3);
         x.feed(0x00010203, 0x02010000, 0, 0, 0);
         x.sheet(8);
@@ -708,7 +680,7 @@ public final class PromisesTest {
     }
 
     private void undoBehindTheRing() {
-        MeetingRanks x = withPlayers(2);
+        MeetingRanks x = Benches.withPlayers(2);
         for (int round = 0; round < 5; round++) {
             for (int i = 0; i < 23; i++) {
                 x.meet(0, 1, i, round);
@@ -723,7 +695,7 @@ public final class PromisesTest {
     }
 
     private void promise31About() {
-        MeetingRanks x = withPlayers(4);
+        MeetingRanks x = Benches.withPlayers(4);
         x.meet(0, 1, 1, 0);
         x.meet(3, 2, 0, 0);
         x.next(0, 1);
@@ -737,7 +709,7 @@ public final class PromisesTest {
         for (int what : new int[] {-1, 7, LOW, HIGH}) {
             check.due("about another", x.about(what), NONE);
         }
-        MeetingRanks ten = withPlayers(10);
+        MeetingRanks ten = Benches.withPlayers(10);
         for (int i = 9; i > 0; i--) {
             check.due("not joined yet", ten.about(6), 0);
             ten.meet(i, i - 1, 0, 0);
