@@ -508,6 +508,30 @@ public final class EdgesOfActsTest {
         });
     }
 
+    /** Points alone tell 0, 1 and 2 apart, and KIND 2 stands at one of the places; the others tell nothing. */
+    private void undoneTiesAreAtTheirPlaces() {
+        for (int many = 1; many <= 4; many++) {
+            for (int teller = 0; teller < many; teller++) {
+                MeetingRanks x = Benches.withPlayers(3);
+                x.meet(0, 1, 1, 1);
+                x.meet(1, 2, 3, 3);
+                x.meet(2, 0, 2, 2);
+                for (int i = 0; i < many; i++) {
+                    x.tie(i == teller ? 2 : 1);
+                }
+                x.ties();
+                e.dueTable("without TIES", x, 0, 1, 2);
+                e.due("undo", x.undo(1), 1);
+                e.due("TIES", x.about(3), many);
+                e.dueTable("the one at " + teller + " tells again", x, 2, 1, 0);
+                e.due("undo of those behind it", x.undo(many - 1 - teller), many - 1 - teller);
+                e.dueTable("it is still there", x, 2, 1, 0);
+                e.due("undo of it", x.undo(1), 1);
+                e.dueTable("and no more", x, 0, 1, 2);
+            }
+        }
+    }
+
     private static MeetingRanks dropped(int k) {
         MeetingRanks x = Benches.fullOfMeetings(2);
         x.drop(k);
@@ -564,6 +588,7 @@ public final class EdgesOfActsTest {
         e.holds("Promise 10", "No TIES: how many there were.", this::noTiesAreLeft);
         e.holds("Promise 30", "The latest n acts (0 .. 40) are UNDONE: n;", this::undoneFrom0To40);
         e.holds("Promise 30", "are UNDONE", this::eachActIsUndone);
+        e.holds("Promise 30", "are UNDONE", this::undoneTiesAreAtTheirPlaces);
         e.holds("Promise 30", "NONE, doing nothing, if there are not so many.", this::notSoManyActs);
     }
 

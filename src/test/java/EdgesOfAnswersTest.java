@@ -399,6 +399,11 @@ public final class EdgesOfAnswersTest {
         e.due("the least", Benches.withPlayers(10).first(), 123456789L);
         e.due("9 ahead of 0", Benches.withWins(10, 9, 0).first(), 1234567890L);
         e.due("its COST is BEST", turned.cost(turned.first()), turned.best());
+        MeetingRanks ring = Benches.withWins(3, 0, 1, 1, 2, 2, 0, 2, 0);
+        e.due("asked before BEST", ring.first(), 120);
+        ring.meet(0, 1, 1, 0);
+        ring.meet(0, 1, 1, 0);
+        e.due("asked once more", ring.first(), 201);
     }
 
     // ---- 24 to 27: RINGS, the CORE, WALKS

@@ -296,6 +296,18 @@ public final class EdgesOfTermsTest {
         e.dueTable("by points", y, 1, 0, 2);
         y.tie(1);
         e.dueTable("by points first", y, 1, 0, 2);
+        // Of as many alone: 0 has the greater SCORE, 1 more points, whatever is asked in between.
+        MeetingRanks z = Benches.withPlayers(3);
+        z.meet(0, 2, 1, 0);
+        z.meet(1, 2, 50, 99);
+        z.tie(2);
+        e.dueTable("the SCORE goes ahead of the TIES", z, 2, 0, 1);
+        e.due("points of 1", z.number(2, 1), 50);
+        e.dueTable("the SCORE goes ahead of the TIES", z, 2, 0, 1);
+        z.meet(1, 2, 0, 0);
+        // SCORES 2, 1, 3; points 1, 50, 99.
+        e.dueTable("each has another SCORE", z, 2, 0, 1);
+        e.due("not TIED", z.tied(1), false);
     }
 
     private void tableByNumbersAtLast() {
