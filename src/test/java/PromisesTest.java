@@ -464,7 +464,8 @@ public final class PromisesTest {
             int q = 99 - points[i * 3 % 7];
             x.meet(a, b, p, q);
             model.meet(a, b, p, q);
-            for (int player = 0; player < 6; player++) {
+            // Each fourth time, so that the object stays within its 512 calls.
+            for (int player = 0; player < 6 && i % 4 == 3; player++) {
                 check.due("large gap, above", x.gap(player, 0), model.gap(player, 0));
                 check.due("large gap, below", x.gap(player, 1), model.gap(player, 1));
             }
