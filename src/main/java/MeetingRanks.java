@@ -842,6 +842,9 @@ public final class MeetingRanks {
 
     /** ROWS: their COST, and by sets of PLAYERS those of the least. */
     private static final class RowSearch {
+        // A COST counts MEETINGS, each once at most.
+        private static final int ABOVE_ALL_COSTS = MOST_MEETINGS + 1;
+
         // Of all orders of a set: the least COST among its own, and how many have it.
         private final int[] least = new int[SETS];
         private final int[] many = new int[SETS];
@@ -901,7 +904,7 @@ public final class MeetingRanks {
         }
 
         private void settle(Meetings met, int n, int set) {
-            int lowest = Integer.MAX_VALUE;
+            int lowest = ABOVE_ALL_COSTS;
             int ways = 0;
             for (int head = 0; head < n; head++) {
                 if (isIn(set, head)) {
@@ -947,8 +950,9 @@ public final class MeetingRanks {
     private static final class Beating {
         private final int[] beaten = new int[MOST_PLAYERS];
         private final int[] unused = new int[PAIRS];
-        // By a set and the last one of it: how many WALKS of the set end there.
-        private final int[] ways = new int[SETS * MOST_PLAYERS];
+        // By a set and the last one of it: how many WALKS of the set end there. It is two thirds of an object's
+        // room, and all objects of a run share one, so it is made when WALKS are first asked for, and kept.
+        private int[] ways = new int[0];
 
         int countRings(Meetings met, int n) {
             for (int a = 0; a < n; a++) {
@@ -992,7 +996,7 @@ public final class MeetingRanks {
 
         int countWalks(Meetings met, int n) {
             fillBeaten(met, n);
-            Arrays.fill(ways, 0);
+            clearWays();
             for (int player = 0; player < n; player++) {
                 ways[(1 << player) * MOST_PLAYERS + player] = 1;
             }
@@ -1006,6 +1010,14 @@ public final class MeetingRanks {
                 sum += ways[everyone(n) * MOST_PLAYERS + last];
             }
             return sum;
+        }
+
+        private void clearWays() {
+            if (ways.length == 0) {
+                ways = new int[SETS * MOST_PLAYERS];
+            } else {
+                Arrays.fill(ways, 0);
+            }
         }
 
         private void fillBeaten(Meetings met, int n) {

@@ -26,12 +26,40 @@ public final class FaceTest {
         "->", "::", "\\w+Exact", "@Override", "equals", "hashCode", "package", "Object", "protected", "Random",
         "nanoTime", "currentTimeMillis", "double", "float"};
 
+    /** What the file takes of the library: of LANGUAGE.md's list, and no more than it needs. */
+    private static final Set<String> LIBRARY = Set.of("Arrays.fill", "System.arraycopy", "Integer.compare",
+        "Integer.bitCount", "Integer.numberOfTrailingZeros", "Math.min", "Math.max", "Math.abs");
+
+    private static final int MOST_LINES = 60;
+
     private static String shape(Method m) {
         StringBuilder text = new StringBuilder(m.getReturnType().getName()).append(' ').append(m.getName()).append('(');
         for (int i = 0; i < m.getParameterCount(); i++) {
             text.append(i == 0 ? "" : ", ").append(m.getParameterTypes()[i].getName());
         }
         return text.append(')').toString();
+    }
+
+    /** The document's own list, where the document is at hand, must be the one that the class is held against. */
+    private static void checkDocument(Check check, Path document) throws IOException {
+        if (!Files.exists(document)) {
+            System.out.println("without " + document + " nobody looks whether the face is the document's");
+            return;
+        }
+        String text = Files.readString(document, StandardCharsets.UTF_8);
+        Matcher block = Pattern.compile("(?s)## The public face\\s+```java(.*?)```").matcher(text);
+        check.isTrue("the document tells a face", block.find());
+        String face = block.group(1);
+        Set<String> told = new TreeSet<>();
+        Matcher methods = Pattern.compile("public (\\w+ \\w+)\\(([^)]*)\\);").matcher(face);
+        while (methods.find()) {
+            told.add(methods.group(1) + "(" + methods.group(2).replaceAll("(\\w+) \\w+", "$1") + ")");
+        }
+        check.isTrue("the document's methods: " + told, told.equals(new TreeSet<>(Arrays.asList(FACE))));
+        check.isTrue("the document's class", face.contains("public final class MeetingRanks {"));
+        check.isTrue("the document's constructor", face.contains("public MeetingRanks();"));
+        check.due("all that the document's face has", face.split("\\bpublic\\b").length - 1, FACE.length + 3);
+        check.isTrue("the document's constant", face.contains("public static final int NONE = -1;"));
     }
 
     private static void checkMembers(Check check) throws ReflectiveOperationException {
@@ -50,6 +78,7 @@ public final class FaceTest {
                 open.add(shape(m));
                 check.isTrue(m.getName() + " is public and no more", m.getModifiers() == Modifier.PUBLIC);
             }
+            check.isTrue(m + " has at most seven parameters", m.getParameterCount() <= 7);
         }
         check.isTrue("the methods are the document's: " + open, open.equals(new TreeSet<>(Arrays.asList(FACE))));
         for (Class<?> inner : c.getDeclaredClasses()) {
@@ -93,20 +122,48 @@ public final class FaceTest {
         while (imports.find()) {
             check.isTrue("import of " + imports.group(1), imports.group(1).equals("java.util.Arrays"));
         }
-        Matcher makes = Pattern.compile("\n( *)(.*\\bnew\\b.*)").matcher(code);
+        Matcher makes = Pattern.compile("\n *(.*\\bnew\\b.*)").matcher(code);
         while (makes.find()) {
-            check.isTrue("made once, with its object: " + makes.group(2), makes.group(2).startsWith("private final "));
+            String line = makes.group(1);
+            boolean once = line.startsWith("private ") || line.equals("ways = new int[SETS * MOST_PLAYERS];");
+            check.isTrue("made with its object, or when first asked for: " + line, once);
+        }
+        Matcher takes = Pattern.compile("\\b([A-Z]\\w*\\.\\w+)").matcher(code.replaceAll("\\bimport [^;]*;", ""));
+        while (takes.find()) {
+            check.isTrue("taken of the library: " + takes.group(1), LIBRARY.contains(takes.group(1)));
         }
         for (char c : text.toCharArray()) {
             check.isTrue("signs are 1 to 127", c < 128);
         }
     }
 
+    /** A method ends with the first brace that stands as far to the right as its own line. */
+    private static void checkLengths(Check check, String text) {
+        String[] lines = text.split("\n");
+        int found = 0;
+        for (int i = 0; i < lines.length; i++) {
+            boolean begins = lines[i].matches(" {4}( {4})?(public |private )?(static )?\\w+(\\[\\])?( \\w+)?\\(.*\\) \\{");
+            if (begins) {
+                String end = lines[i].replaceAll("\\S.*", "") + "}";
+                int last = i;
+                while (last < lines.length - 1 && !lines[last].equals(end)) {
+                    last++;
+                }
+                found++;
+                check.isTrue("short: " + lines[i].trim(), last - i + 1 <= MOST_LINES);
+            }
+        }
+        check.isTrue("methods were found: " + found, found > FACE.length);
+    }
+
     public static void main(String[] args) throws IOException, ReflectiveOperationException {
         Check check = new Check();
         checkMembers(check);
         String file = args.length > 0 ? args[0] : "src/main/java/MeetingRanks.java";
-        checkText(check, Files.readString(Path.of(file), StandardCharsets.UTF_8));
+        String text = Files.readString(Path.of(file), StandardCharsets.UTF_8);
+        checkText(check, text);
+        checkLengths(check, text);
+        checkDocument(check, Path.of(args.length > 1 ? args[1] : "../shared/DOC.md"));
         check.end();
     }
 }

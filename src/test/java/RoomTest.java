@@ -3,9 +3,10 @@ import java.lang.reflect.Array;
 import java.lang.reflect.Field;
 import java.lang.reflect.Modifier;
 
-/** An object's room is small and the same for ever; calls make nothing. */
+/** An object's room is small; but for the first walks(), which makes one row and keeps it, calls make nothing. */
 public final class RoomTest {
-    private static final int MOST_IN_AN_OBJECT = 20_000;
+    private static final int MOST_IN_ALL = 7_300_000;
+    private static final int MOST_CALLS = 512;
 
     private static long roomOf(Object x) throws ReflectiveOperationException {
         if (x.getClass().isArray()) {
@@ -19,6 +20,17 @@ public final class RoomTest {
             }
         }
         return sum;
+    }
+
+    /** All that 512 calls can make, be they as dear as they may, must fit in a run's room. */
+    private static void checkDearestRun(Check check) throws ReflectiveOperationException {
+        MeetingRanks x = new MeetingRanks();
+        long made = roomOf(x);
+        check.isTrue("512 new objects: " + made + " each", made * MOST_CALLS < MOST_IN_ALL);
+        x.walks();
+        long asked = roomOf(x);
+        check.isTrue("256 new ones, each asked for WALKS: " + asked, asked * MOST_CALLS / 2 < MOST_IN_ALL);
+        check.isTrue("512 times what the first walks() makes", (asked - made) * MOST_CALLS < MOST_IN_ALL);
     }
 
     private static long allocated() {
@@ -38,10 +50,10 @@ public final class RoomTest {
 
     public static void main(String[] args) throws ReflectiveOperationException {
         Check check = new Check();
+        checkDearestRun(check);
         MeetingRanks x = new MeetingRanks();
+        long sum = x.walks();
         long room = roomOf(x);
-        check.isTrue("a new object's room: " + room, room < MOST_IN_AN_OBJECT);
-        long sum = 0;
         for (int i = 0; i < 100; i++) {
             sum += callAll(x, i);
         }
